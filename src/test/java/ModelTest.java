@@ -1,6 +1,5 @@
 import java.util.ArrayList;
 import java.util.List;
-import java.util.NoSuchElementException;
 import java.util.Random;
 
 /** Long runs of drawn calls: the class must answer as a model does that follows the document word by word. */
@@ -223,16 +222,8 @@ public final class ModelTest {
         }
     }
 
-    private interface Call {
-        Object answer();
-    }
-
-    private static String told(Call call) {
-        try {
-            return String.valueOf(call.answer());
-        } catch (IllegalArgumentException | IllegalStateException | NoSuchElementException e) {
-            return e.getClass().getSimpleName();
-        }
+    private static String told(Checks.Call call) {
+        return Checks.told(call);
     }
 
     /** One run: calls drawn by a seed, so that every run can be had again. */

@@ -2,7 +2,7 @@
 final class Checks {
     /** A call whose answer, or whose exception, is looked at. */
     interface Call {
-        long answer();
+        Object answer();
     }
 
     private final String test;
@@ -13,31 +13,33 @@ final class Checks {
         this.test = test;
     }
 
-    void due(String what, long got, long want) {
+    /** The answer as a text, or the name of the exception: whichever it is, so that a wrong one is told too. */
+    static String told(Call call) {
+        try {
+            return String.valueOf(call.answer());
+        } catch (RuntimeException e) {
+            return e.getClass().getSimpleName();
+        }
+    }
+
+    void due(String what, String got, String want) {
         looked++;
-        if (got != want) {
+        if (!got.equals(want)) {
             wrong++;
             System.out.println(what + " answered " + got + ", due is " + want);
         }
     }
 
-    void due(String what, boolean got, boolean want) {
-        due(what, got ? 1 : 0, want ? 1 : 0);
+    void due(String what, long got, long want) {
+        due(what, String.valueOf(got), String.valueOf(want));
     }
 
-    void throwsDue(String what, Class<? extends RuntimeException> want, Call call) {
-        looked++;
-        String got;
-        try {
-            got = "answered " + call.answer();
-        } catch (RuntimeException e) {
-            if (e.getClass() == want) {
-                return;
-            }
-            got = "threw " + e;
-        }
-        wrong++;
-        System.out.println(what + " " + got + ", due is " + want.getSimpleName());
+    void due(String what, boolean got, boolean want) {
+        due(what, String.valueOf(got), String.valueOf(want));
+    }
+
+    int looked() {
+        return looked;
     }
 
     /** Ends the test: with exit code 1 if an answer was wrong, or if nothing was looked at. */
