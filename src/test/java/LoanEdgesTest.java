@@ -101,6 +101,11 @@ public final class LoanEdgesTest extends Cases {
         x.set(LOAN, 0, 200);
         due("the greatest LOAN", x.beat(0), true);
         due("END with that LOAN", x.task(0, END), 218);
+        x.set(LOAN, 0, 1);
+        due("the least LOAN", x.beat(0), true);
+        due("END has come nearer", x.task(0, END), 19);
+        x.set(LOAN, 0, 200);
+        x.beat(0);
         due("not a try", x.task(0, TRIES), 1);
         due("it is lent to the last", x.tick(199), 0);
         due("it runs out", x.tick(1), 1);

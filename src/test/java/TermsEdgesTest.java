@@ -562,6 +562,17 @@ public final class TermsEdgesTest extends Cases {
         }
     }
 
+    private void topBelowBase() {
+        for (int top : new int[] {1, 99, 100, 101}) {
+            LoanRounds x = new LoanRounds();
+            x.set(BASE, 0, 100);
+            x.set(TOP, 0, top);
+            plain(x);
+            lendAndFail(x, 0);
+            due("100 at most " + top, waitOf(x, 0), Math.min(100, top));
+        }
+    }
+
     private void topHoldsForManyTries() {
         for (int top : new int[] {999, 1000}) {
             LoanRounds x = new LoanRounds();
@@ -622,6 +633,7 @@ public final class TermsEdgesTest extends Cases {
         sentence("or more, it is DEAD", this::deadAboveMost);
         sentence("else it is WAITING, DUE at TIME and BASE * 2^(TRIES - 1)", this::baseDoubles);
         sentence("but at most TOP, ticks", this::atMostTop);
+        sentence("but at most TOP, ticks (after the first TRY)", this::topBelowBase);
         sentence("but at most TOP, ticks (for many TRIES)", this::topHoldsForManyTries);
         close();
     }
